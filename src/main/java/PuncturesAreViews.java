@@ -84,7 +84,7 @@ public final class PuncturesAreViews {
         for (int i = 0; i < FIRST_RULE.length(); i++) {
             tape.add(FIRST_RULE.charAt(i));
         }
-        reader.read(tape, texts[0]);
+        reader.read(texts[0]);
         tape.size = 0;
         textCount = 1;
         road = new Road(texts[0]);
@@ -209,7 +209,7 @@ public final class PuncturesAreViews {
         if (textCount >= texts.length) {
             return FULL;
         }
-        int fault = reader.read(tape, texts[textCount]);
+        int fault = reader.read(texts[textCount]);
         tape.size = 0;
         if (fault != NONE) {
             return FAULTS_FROM - fault;
@@ -675,18 +675,17 @@ public final class PuncturesAreViews {
                 good++;
             }
         }
-        int common = commonDivisor(good, m);
-        return part == 0 ? good / common : m / common;
+        return inLowestTerms(good, m, part);
     }
 
-    /** The greatest; of 0 and m it is m. */
-    private static int commonDivisor(int good, int m) {
+    private static int inLowestTerms(int good, int m, int part) {
+        int asked = part == 0 ? good : m;
         for (int d = m; d > 1; d--) {
             if (good % d == 0 && m % d == 0) {
-                return d;
+                return asked / d;
             }
         }
-        return 1;
+        return asked;
     }
 
     public int image() {
@@ -1025,7 +1024,7 @@ public final class PuncturesAreViews {
         }
 
         private void rideAll(int n, Road road) {
-            for (int i = 0; i < count; i++) {
+            for (int i = 0; i < count && i < seats.length; i++) {
                 for (int k = 0; k < n; k++) {
                     seats[i].goOn(road);
                 }
@@ -1034,7 +1033,7 @@ public final class PuncturesAreViews {
 
         private int homes() {
             int homes = 0;
-            for (int i = 0; i < count; i++) {
+            for (int i = 0; i < count && i < seats.length; i++) {
                 if (seats[i].isHome()) {
                     homes++;
                 }
@@ -1044,7 +1043,7 @@ public final class PuncturesAreViews {
 
         private int patches() {
             int patches = 0;
-            for (int i = 0; i < count; i++) {
+            for (int i = 0; i < count && i < seats.length; i++) {
                 patches += seats[i].patches;
             }
             return patches;
@@ -1177,7 +1176,7 @@ public final class PuncturesAreViews {
         private final int[] tokens = new int[MOST_BYTES + 1];
         private final int[] starts = new int[MOST_BYTES + 1];
         private int count;
-        private Tape tape;
+        private final Tape tape;
 
         private Tokens(Tape tape) {
             this.tape = tape;
@@ -1191,23 +1190,24 @@ public final class PuncturesAreViews {
             return i >= 0 && i < count && i < starts.length ? starts[i] : tape.size;
         }
 
-        private void scan(Tape from) {
-            tape = from;
+        private void scan() {
             count = 0;
-            int at = 0;
-            while (at < tape.size) {
-                int end = at + 1;
+            int behind = 0;
+            for (int at = 0; at < tape.size; at++) {
                 int letter = tape.byteAt(at);
+                // the rest of a word or a number begins no token
+                if (at < behind || isBlank(letter)) {
+                    continue;
+                }
                 if (isLetter(letter)) {
-                    end = wordEnd(at);
-                    add(word(at, end), at);
+                    behind = wordEnd(at);
+                    add(word(at, behind), at);
                 } else if (isDigit(letter - '0')) {
-                    end = numberEnd(at);
-                    add(number(at, end), at);
-                } else if (!isBlank(letter)) {
+                    behind = numberEnd(at);
+                    add(number(at, behind), at);
+                } else {
                     add(sign(letter), at);
                 }
-                at = end;
             }
         }
 
@@ -1299,8 +1299,8 @@ public final class PuncturesAreViews {
         }
 
         /** The place of the fault; NONE. */
-        private int read(Tape tape, Text into) {
-            tokens.scan(tape);
+        private int read(Text into) {
+            tokens.scan();
             text = into;
             text.clear();
             next = 0;

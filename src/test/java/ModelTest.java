@@ -8,7 +8,7 @@ import java.util.Random;
 
 /** Runs of calls drawn by fixed seeds, on the class and on the model: each answer is the same. */
 final class ModelTest {
-    private static final int RUNS = 1200, CALLS = 512;
+    private static final int RUNS = 1200, CALLS = 512, SOUPS = 6000;
     private static final int[] ODD = {-1, -2, -3, 5, 6, 9, 10, 23, 24, 25, 40, 41, 60, 61, 99, 100, 160, 240, 241, 255, 256,
         999, 1000, Integer.MAX_VALUE, Integer.MAX_VALUE - 1, Integer.MIN_VALUE, Integer.MIN_VALUE + 1, 65536, -65535, 257};
 
@@ -30,6 +30,10 @@ final class ModelTest {
         "patches", "day", "(", ")", ";", "+", "-", "*", "<", "=", "0", "7", "42", "9999", "12345", "00012", "A", ">", "\t",
         "\n", "lett", "thoughts", "a", "\u00e9", "- ", "not not not not not ", "((((", "-----"};
 
+    private static final String[] OPERANDS = {"1", "7", "air", "at", "not 1", "- 2", "( 3 )", "not not air", "- - 4", "(",
+        "( (", "not (", "- (", "- - ("};
+    private static final String[] JOINTS = {"+", "-", "*", "<", "=", "or", "and", ")", ") )", ") +", ") <", "<", ";"};
+
     private final Random random;
     private final PuncturesAreViews real = new PuncturesAreViews();
     private final Model model = new Model();
@@ -42,6 +46,7 @@ final class ModelTest {
     }
 
     public static void main(String[] args) throws Exception {
+        readsSoups();
         List<Method> methods = new ArrayList<>(Arrays.asList(PuncturesAreViews.class.getDeclaredMethods()));
         methods.removeIf(m -> !java.lang.reflect.Modifier.isPublic(m.getModifiers()));
         methods.sort(Comparator.comparing(Method::getName));
@@ -65,8 +70,10 @@ final class ModelTest {
                 left -= call("rider", random.nextInt(6), random.nextInt(10), random.nextInt(10));
             } else if (dice < 8) {
                 left -= call("set", random.nextInt(6), random.nextInt(5), random.nextInt(24));
-            } else if (dice < 10) {
-                left -= call("film", random.nextInt(4), random.nextInt(5), random.nextInt(31));
+            } else if (dice < 10 && left > 20) {
+                left -= filmAndTell();
+            } else if (dice == 10) {
+                left -= admitBySheet();
             } else {
                 Method m = methods.get(random.nextInt(methods.size()));
                 if (!m.getName().equals("feed") || random.nextInt(8) == 0) {
@@ -74,6 +81,62 @@ final class ModelTest {
                 }
             }
         }
+    }
+
+    /** Rows of pieces that are hardly ever texts, each on an object of its own. */
+    private static void readsSoups() throws Exception {
+        Random random = new Random(77);
+        for (int i = 0; i < SOUPS; i++) {
+            ModelTest t = new ModelTest(i, List.of());
+            StringBuilder soup = new StringBuilder("lets ");
+            boolean operand = true;
+            for (int k = random.nextInt(14); k >= 0; k--) {
+                boolean fits = random.nextInt(12) != 0;
+                soup.append(!fits ? PIECES[random.nextInt(PIECES.length)]
+                    : operand ? OPERANDS[random.nextInt(OPERANDS.length)] : JOINTS[random.nextInt(JOINTS.length)]);
+                soup.append(random.nextInt(3) == 0 ? "" : " ");
+                operand = !operand;
+            }
+            soup.append(random.nextBoolean() ? ";holds(air)*2;pumps day;" : ";holds 1 ;pumps 2; ");
+            t.call("rider", 0, 3, 2);
+            for (int k = 0; k < soup.length() && k < 160; k++) {
+                t.call("feed", soup.charAt(k));
+            }
+            t.call("text");
+            t.call("force", 1);
+            t.call("told", 0, 8);
+            t.call("told", 0, 9);
+        }
+    }
+
+    private int filmAndTell() throws Exception {
+        int sheet = random.nextInt(4);
+        int one = random.nextInt(5);
+        int n = random.nextInt(31);
+        int calls = call("film", sheet, one, n);
+        if (random.nextBoolean()) {
+            calls += call("set", 2 + random.nextInt(4), one, random.nextInt(10));
+        }
+        if (random.nextInt(4) == 0 && n > 0) {
+            calls += call("cell", sheet, random.nextInt(n), random.nextInt(50));
+        }
+        for (int what = 0; what < 7; what++) {
+            calls += call("tells", sheet, one, what);
+        }
+        for (int i = 0; i < 4; i++) {
+            calls += call("tells", sheet, one, 10 + random.nextInt(24));
+        }
+        return calls;
+    }
+
+    private int admitBySheet() throws Exception {
+        int sheet = random.nextInt(4);
+        int sort = random.nextInt(3);
+        int calls = call("sheet", sheet, sort, 3 + random.nextInt(4));
+        for (int i = 0; i < 6; i++) {
+            calls += call("cell", sheet, i, random.nextInt(i % 3 == 0 ? 7 : 11));
+        }
+        return calls + call("riders", sheet, sort, random.nextInt(3), random.nextInt(3));
     }
 
     private int[] arguments(Method m) {

@@ -107,6 +107,7 @@ final class TextsTest {
 
     private static void tellsFaultsOfDepth() {
         reads(1, "lets (((((1)))))" + REST);
+        reads(1, "lets (((((1-1)))))" + REST);
         fault(10, "lets ((((((1))))))" + REST);
         fault(10, "lets ------1" + REST);
         fault(25, "lets not not not not not not 1" + REST);
