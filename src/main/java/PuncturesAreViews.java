@@ -18,7 +18,7 @@ public final class PuncturesAreViews {
     private static final int MOST_RIDE = 60, MOST_STEPS = 240, MOST_TOLD = 30, MOST_SEEDS = 20;
     private static final int MOST_DEALT_TO = 3;
 
-    /** What set() lays and told() tells alike: DAY, THOUGHT, NUMBER, PATCHES, AT, AIR, and how much each may be. */
+    /** How much each may be that set() lays: DAY, THOUGHT, NUMBER, PATCHES, AT, AIR. */
     private static final int[] MOST_OF = {MOST_DAY, MOST_DIGIT, MOST_DIGIT, MOST_DIGIT, HOME, MOST_AIR};
 
     private static final int RIDER = 0, CURATE = 1, DULL = 2, DOUBTER = 3, BOLD = 4, THINKER = 5, KINDS = 6;
@@ -98,7 +98,7 @@ public final class PuncturesAreViews {
         if (what < 0 || what >= MOST_OF.length || v < 0 || v > MOST_OF[what]) {
             return BAD;
         }
-        int was = held(what, of);
+        int was = told(of, what);
         if (was != BAD) {
             lay(what, of, v);
         }
@@ -113,34 +113,6 @@ public final class PuncturesAreViews {
     }
 
     public int told(int of, int what) {
-        if (what >= 0 && what < MOST_OF.length) {
-            return held(what, of);
-        }
-        Rider one = crew.seat(of);
-        if (one == null) {
-            return BAD;
-        }
-        switch (what) {
-            case 6:
-                return one.kind;
-            case 7:
-                return one.flat;
-            case 8:
-                return one.letsOut(road);
-            case 9:
-                return one.holdsBehindPatch(road);
-            case 10:
-                return one.pumpsIn(road);
-            default:
-                return BAD;
-        }
-    }
-
-    private static boolean isDigit(int v) {
-        return v >= 0 && v <= MOST_DIGIT;
-    }
-
-    private int held(int what, int of) {
         if (what == 0) {
             return road.day;
         }
@@ -160,9 +132,23 @@ public final class PuncturesAreViews {
                 return one.at;
             case 5:
                 return one.air;
+            case 6:
+                return one.kind;
+            case 7:
+                return one.flat;
+            case 8:
+                return one.letsOut(road);
+            case 9:
+                return one.holdsBehindPatch(road);
+            case 10:
+                return one.pumpsIn(road);
             default:
                 return BAD;
         }
+    }
+
+    private static boolean isDigit(int v) {
+        return v >= 0 && v <= MOST_DIGIT;
     }
 
     private void lay(int what, int of, int v) {
@@ -1171,10 +1157,10 @@ public final class PuncturesAreViews {
         }
     }
 
-    /** The tokens of a tape, with the places where they start; behind them TAPE_ENDS. */
+    /** The tokens of a tape, each a byte at least, with the places where they start; behind them TAPE_ENDS. */
     private static final class Tokens {
-        private final int[] tokens = new int[MOST_BYTES + 1];
-        private final int[] starts = new int[MOST_BYTES + 1];
+        private final int[] tokens = new int[MOST_BYTES];
+        private final int[] starts = new int[MOST_BYTES];
         private int count;
         private final Tape tape;
 

@@ -79,6 +79,8 @@ final class BestTest {
         Check.due("5 held, flat at 1", x.takes(0), 25);
         Check.due("place 0", x.ease(0, 0), 0);
         Check.due("takes then", x.ease(0, 1), 24);
+        Check.due("0 and 1", x.change(0, 0), 1);
+        Check.due("takes then", x.change(0, 1), 24);
     }
 
     private static void changes() {
@@ -111,6 +113,14 @@ final class BestTest {
         Check.due("49, flat at 3", x.takes(0), 23);
         Check.due("takes then", x.change(0, 1), 22);
         Check.due("2 and the first behind 10", x.change(0, 0), 211);
+        // any other change, were it left as it was, would hide this one
+        PuncturesAreViews y = road("990990000000000000000009");
+        Check.rule(y, "lets (thought = 9) * (60 - (at = 22) * 50) ; holds 40 ; pumps 0 ;");
+        y.rider(0, 0, 1);
+        y.set(4, 0, 1);
+        Check.due("flat at 4", y.takes(0), 23);
+        Check.due("3 and 22", y.change(0, 0), 322);
+        Check.due("takes then", y.change(0, 1), 22);
     }
 
     private static void bears() {
@@ -131,6 +141,8 @@ final class BestTest {
         Check.due("home", x.bears(0, 23), 9);
         x.set(5, 0, 13);
         Check.due("14 is not above 14", x.bears(0, 23), 1);
+        x.set(5, 0, 1);
+        Check.due("2 bear nothing, but no thought", x.bears(0, 23), 0);
         x.set(4, 0, 23);
         Check.due("is home", x.bears(0, 23), -1);
         for (int[] bad : new int[][] {{1, 0}, {-1, 0}, {0, 24}, {0, -1}, {MIN, 0}, {0, MAX}}) {

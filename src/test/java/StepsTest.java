@@ -101,6 +101,20 @@ final class StepsTest {
             Check.due("flat", x.step(0), 0);
             Check.due("so often", x.told(0, 7), i);
         }
+        PuncturesAreViews y = new PuncturesAreViews();
+        y.rider(0, 0, 0);
+        Check.rule(y, "lets 99; holds 1; pumps 0;");
+        for (int i = 1; i <= 101; i++) {
+            y.set(4, 0, 0);
+            y.set(3, 0, 9);
+            y.set(5, 0, 1);
+            y.day(60);
+            Check.due("ten times a day", y.told(0, 7), Math.min(999, 10 * i));
+        }
+        y.set(4, 0, 0);
+        y.set(3, 0, 9);
+        y.set(5, 0, 1);
+        Check.due("in these", y.run(0, 60, 3), 10);
     }
 
     private static void days() {

@@ -5,6 +5,7 @@ final class TextsTest {
         readsTexts();
         tellsFaults();
         tellsFaultsOfDepth();
+        readsBehindFaults();
         isFull();
         forces();
         worksTextsOff();
@@ -73,6 +74,11 @@ final class TextsTest {
         fault(7, "lets 1 1" + REST);
         fault(12, "lets thought7" + REST);
         fault(5, "lets thoughts" + REST);
+        fault(5, "lets atz" + REST);
+        fault(7, "lets at\u007b" + REST);
+        fault(7, "lets at`" + REST);
+        fault(6, "lets 1/" + REST);
+        fault(6, "lets 1:" + REST);
         fault(5, "lets lets" + REST);
         fault(5, "lets 10000" + REST);
         fault(5, "lets 00001" + REST);
@@ -119,6 +125,17 @@ final class TextsTest {
         fault(12, "lets (((((1-(-1))))))" + REST);
         reads(1, "lets (((not 1 or not 1)))" + REST);
         reads(1, "lets (((((1)))))*(((((1)))))" + ";holds(((((1)))));pumps-----1;");
+    }
+
+    private static void readsBehindFaults() {
+        PuncturesAreViews x = new PuncturesAreViews();
+        x.rider(0, 0, 0);
+        Check.due("fault", Check.read(x, "lets 5 ; holds 6 ; pumps ((((("), -130);
+        Check.due("as deep as can be", Check.read(x, "lets (((((7)))));holds 8;pumps 9;"), 1);
+        Check.due("the rule", x.force(1), 0);
+        Check.due("LETS", x.told(0, 8), 7);
+        Check.due("HOLDS", x.told(0, 9), 8);
+        Check.due("PUMPS", x.told(0, 10), 9);
     }
 
     private static void isFull() {

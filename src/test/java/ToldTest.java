@@ -223,6 +223,13 @@ final class ToldTest {
             unlike += drawn != first ? 1 : 0;
         }
         Check.holds("seeds are unlike", unlike > 3);
+        Check.rule(x, "lets 99 ; holds 1 ; pumps 0 ;");
+        Check.due("by the rule that is", x.drawn(1, 0), x.takes(0));
+        Check.rule(x, "lets day * 99 ; holds 1 ; pumps 0 ;");
+        Check.due("on the day that is", x.drawn(1, 0), 23);
+        x.set(0, 0, 2);
+        Check.due("on the day that is", x.drawn(1, 0), 32);
+        Check.due("on the day that is", x.chance(1, 1, 0, 31, 0), 0);
     }
 
     private static void chances() {
@@ -337,6 +344,15 @@ final class ToldTest {
         Check.due("the next one", x.rider(4, 2, 3), 1);
         Check.due("its kind", x.told(1, 6), 4);
         Check.due("its patches", x.told(1, 3), 3);
+        x.set(5, 1, 1);
+        x.set(1, 1, 9);
+        x.day(1);
+        Check.due("flat at 1", x.told(1, 4) + 10 * x.told(1, 7) + 100 * x.told(1, 5), 11);
+        x.back();
+        x.rider(0, 0, 0);
+        Check.due("another is at 0", x.told(1, 4), 0);
+        Check.due("with all air", x.told(1, 5), 99);
+        Check.due("never flat yet", x.told(1, 7), 0);
         PuncturesAreViews y = new PuncturesAreViews();
         y.image();
         y.rider(1, 1, 1);
