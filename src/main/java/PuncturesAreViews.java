@@ -484,7 +484,7 @@ public final class PuncturesAreViews {
         }
         int patches = crew.patches();
         int best = 0;
-        int least = Integer.MAX_VALUE;
+        int least = MOST_DEALT_TO * MOST_STEPS + 1;
         for (int deal = 0; deal < deals; deal++) {
             if (digitSum(deal) == patches && stepsDealt(deal) < least) {
                 least = stepsDealt(deal);

@@ -3,6 +3,9 @@ final class Check {
     private static int asked = 0;
     private static int wrong = 0;
 
+    /** What the answers that follow are about. */
+    static String about = "";
+
     private Check() {
     }
 
@@ -10,7 +13,7 @@ final class Check {
         asked++;
         if (got != want) {
             wrong++;
-            System.out.println(call + " answered " + got + ", due is " + want);
+            System.out.println((about.isEmpty() ? "" : about + ": ") + call + " answered " + got + ", due is " + want);
         }
     }
 

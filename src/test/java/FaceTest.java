@@ -122,7 +122,46 @@ final class FaceTest {
         while (m.find()) {
             Check.holds("no '" + m.group() + "' in the source", false);
         }
+        library(code);
+        methodsAreShort(code);
         Check.holds("all signs are ASCII", source.chars().allMatch(c -> c == '\n' || c >= 32 && c < 127));
         Check.due("one public class", code.split("\\bpublic final class\\b", -1).length, 2);
+    }
+
+    /** Of the library's classes, what LANGUAGE.md lists: functions, and no constants. */
+    private static void library(String code) {
+        Matcher used = Pattern.compile("\\b(Integer|Long|Math|System|Arrays|List|String|Character|Short|Byte|Boolean)\\.(\\w+)(\\(?)")
+            .matcher(code);
+        Set<String> allowed = Set.of("Math.max(", "Math.min(", "System.arraycopy(");
+        while (used.find()) {
+            Check.holds(used.group() + " is listed", allowed.contains(used.group()));
+        }
+        Set<String> own = new TreeSet<>();
+        for (Class<?> c : PuncturesAreViews.class.getDeclaredClasses()) {
+            own.add(c.getSimpleName());
+        }
+        Matcher made = Pattern.compile("\\bnew (\\w+)").matcher(code);
+        while (made.find()) {
+            Check.holds("new " + made.group(1) + " is its own", own.contains(made.group(1)) || made.group(1).equals("int"));
+        }
+        Matcher called = Pattern.compile("\\b[A-Z][A-Z_]+\\.(\\w+)\\(").matcher(code);
+        while (called.find()) {
+            Check.holds("String." + called.group(1) + " is listed", Set.of("length", "charAt", "indexOf").contains(called.group(1)));
+        }
+    }
+
+    private static void methodsAreShort(String code) {
+        int first = 0;
+        int line = 0;
+        for (String l : code.split("\n")) {
+            line++;
+            if (l.matches(" {4}( {4})?(public|private) .*\\) \\{")) {
+                first = line;
+            }
+            if (l.matches(" {4}( {4})?\\}") && first > 0) {
+                Check.holds("lines of the method at " + first, line - first < 60);
+                first = 0;
+            }
+        }
     }
 }

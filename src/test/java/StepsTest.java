@@ -109,7 +109,9 @@ final class StepsTest {
             y.set(3, 0, 9);
             y.set(5, 0, 1);
             y.day(60);
-            Check.due("ten times a day", y.told(0, 7), Math.min(999, 10 * i));
+            if (i % 20 == 0 || i > 98) {
+                Check.due("ten times a day", y.told(0, 7), Math.min(999, 10 * i));
+            }
         }
         y.set(4, 0, 0);
         y.set(3, 0, 9);

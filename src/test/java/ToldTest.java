@@ -236,6 +236,7 @@ final class ToldTest {
         PuncturesAreViews x = dullOne();
         for (int seed : new int[] {0, 5, -10, MAX - 3, MIN}) {
             for (int m = 1; m <= 20; m++) {
+                x = dullOne();
                 for (int k = 26; k <= 31; k++) {
                     chance(x, seed, m, k);
                 }
