@@ -5,11 +5,11 @@ import java.util.LinkedHashMap;
 import java.util.Map;
 
 /**
- * The document, from "Terms" to "Promise 29": a test quotes the words that it is about, and what no
- * test has quoted is found by end(). So no sentence goes untested, and no quotation is made up.
+ * The document, from "What it is" to "Promise 29": a test quotes the words that it is about, and what
+ * no test has quoted is found by end(). So no sentence goes untested, and no quotation is made up.
  */
 final class Doc {
-    private static final String FIRST = "Terms", BEHIND_LAST = "Not promised";
+    private static final String FIRST = "What it is", FACE = "The public face", TERMS = "Terms", BEHIND_LAST = "Not promised";
 
     private static final class Section {
         final String heading;
@@ -39,10 +39,10 @@ final class Doc {
                 SECTIONS.put(key, new Section(heading, words(part.substring(heading.length()))));
             }
         }
-        Check.due("sections", SECTIONS.size(), 30);
+        Check.due("sections", SECTIONS.size(), 32);
     }
 
-    /** What a section says, without the marks of its form and without the face, which FaceTest looks at. */
+    /** What a section says, without the marks of its form and without the face, which stands in a section of its own. */
     private static String words(String text) {
         return text.replaceAll("(?m)^```\\w*$", " ").replaceAll("(?m)^==== \\d ", " ").replaceAll("(?m)^`[^`\n]*`: ", " ")
             .replaceAll("(?m)^Details\\. ", " ").replaceAll("\\s+", " ").strip();
@@ -52,8 +52,16 @@ final class Doc {
         about("Promise " + number);
     }
 
-    static void terms() {
+    static void whatItIs() {
         about(FIRST);
+    }
+
+    static void face() {
+        about(FACE);
+    }
+
+    static void terms() {
+        about(TERMS);
     }
 
     private static void about(String key) {
